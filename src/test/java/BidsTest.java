@@ -79,6 +79,7 @@ public final class BidsTest {
         Check.due("4: 7", x.lots(7), -6);
         Check.due("4: 6", x.lots(6), 1);
         x.bid(2, 5, 0, 1, 2, 3, 4, 10, 0);
+        x.bid(2, 2, 0, 1, 2, 3, 4, 10, 0);
         x.bid(2, 1, 0, 1, 2, 3, 4, 10, 0);
         x.out(2, 5, true);
         Check.due("4: 2", x.lots(2), 6);
@@ -88,6 +89,8 @@ public final class BidsTest {
         Check.due("4: withdrawn for good", x.price(2, 5), -5);
         Check.due("4: kept", x.price(2, 1), 10);
         Check.due("4: told of the bidder, it stays", x.out(2, 5, true), 0);
+        Check.due("4: 1", x.lots(1), 6);
+        x.lots(6);
         x.closing(0);
         x.time(1);
         Check.due("4: closed", x.lots(0), -3);
@@ -288,6 +291,14 @@ public final class BidsTest {
             Check.due("12: above of " + (i + 1), x.quality(0, 0, 0), above[i]);
             Check.due("12: below of " + (i + 1), x.quality(0, 0, 1), below[i]);
         }
+        for (int i = 0; i < 4; i++) {
+            x.note(i, 1, 0, 0);
+        }
+        Check.due("12: four of 0", x.quality(1, 0, 0), 0);
+        for (int i = 0; i < 5; i++) {
+            x.note(i, 1, 0, 100);
+        }
+        Check.due("12: five of 100", x.quality(1, 0, 0), 100);
         x.bar(5, 0, true);
         x.bar(4, 1, true);
         x.bar(3, 1, true);

@@ -91,6 +91,9 @@ public final class FormulaTest {
         units("((((((<(p,p)))))))", -27);
         units("((((((<p", -27);
         units("(((((((", -26);
+        units("<(p,(((((p))))))", 2);
+        units("<(p,((((((p)))))))", -29);
+        units("<(((((((p))))),p)", -27);
         units("p" + (char) 0, -21);
         units("p" + (char) 255, -21);
     }
@@ -148,6 +151,12 @@ public final class FormulaTest {
         value(x, "a", 271, 3);
         value(x, "q", 7, 1);
         value(x, "b", 17, 2);
+        x.note(0, 2, 0, 8);
+        x.note(1, 2, 0, 9);
+        x.note(2, 2, 0, 9);
+        value(x, "b", 26, 3);
+        x.note(2, 2, 0, 0);
+        value(x, "b", 17, 2);
         value(x, "k", 3, 1);
         value(x, "2+3*4", 14, 1);
         value(x, "(2+3)*4", 20, 1);
@@ -158,12 +167,17 @@ public final class FormulaTest {
         value(x, ">(1/3,1/2)", 1, 2);
         value(x, "<(0-1,0-2)", -2, 1);
         value(x, ">(0-1,0-2)", -1, 1);
+        value(x, "<(3/2,2/3)", 2, 3);
+        value(x, ">(3/2,2/3)", 3, 2);
+        value(x, ">(3/7,2/5)", 3, 7);
+        value(x, "<(3/7,2/5)", 2, 5);
         value(x, "0/5", 0, 1);
         value(x, "000012", 12, 1);
     }
 
     private static void bounds() {
         BidsJudged x = BidsTest.closed(100);
+        value(x, "b", 0, 1);
         value(x, "100000*10000", 1000000000L, 1);
         value(x, "1/(100000*10000)", 1, 1000000000L);
         value(x, "0-100000*10000", -1000000000L, 1);

@@ -129,6 +129,8 @@ public final class RingsAndFrameworkTest {
         Check.due("37: alone", y.call(2), 6);
         Check.due("37: alone again", y.call(2), 6);
         Check.due("37: alone no more", y.call(1), -9);
+        y.join(7, 999);
+        Check.due("37: the greatest", y.call(999), 7);
     }
 
     private static void decline() {

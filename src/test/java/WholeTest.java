@@ -86,6 +86,9 @@ public final class WholeTest {
         y.withdraw(0, 0);
         bid(y, 0, 0, 50);
         Check.due("20: a new bid is not asked", y.ask(0, 0, 7), 1);
+        y.answer(0, 0);
+        Check.due("20: the first minute of all", y.ask(0, 0, 1), 1);
+        Check.due("20: asked then", y.ask(0, 0, 2), -3);
     }
 
     private static void answer() {
@@ -182,6 +185,12 @@ public final class WholeTest {
         x.most(0, 6);
         Check.formula(x, "1/(p-200)");
         Check.due("25: broken ones are not in order", x.whole(0), 1);
+        x.most(1, 6);
+        Check.formula(x, "q");
+        x.rebate(0, 1, 0);
+        x.rebate(0, 2, 0);
+        x.rebate(1, 1, 50);
+        Check.due("25: another bidder's rebate", x.whole(1), 55 + 200);
         BidsJudged y = new BidsJudged();
         y.lots(6);
         y.set(0, 1);
@@ -304,6 +313,7 @@ public final class WholeTest {
         Check.due("29: there are 20", x.challenge(0, 0), -6);
         Check.due("29: 20 hold", x.count(8), 20);
         x.judge(0, true);
+        Check.due("29: awarded no more", x.challenge(0, 0), -3);
         x.award(0);
         Check.due("29: there are 20 still", x.challenge(0, 0), -6);
     }
@@ -347,6 +357,8 @@ public final class WholeTest {
         x.ask(1, 1, 3);
         close(x);
         x.note(0, 1, 0, 10);
+        x.note(0, 0, 0, 30);
+        x.note(5, 1, 0, 10);
         x.note(0, 0, 1, 20);
         x.time(8);
         bid(x, 2, 0, 50);
@@ -369,6 +381,7 @@ public final class WholeTest {
         Check.due("30: formula is q at stage 0", x.points(1, 0, 0), 10);
         x = challenged(1);
         Check.due("30: notes go at stage 1", x.quality(1, 0, 0), 0);
+        Check.due("30: all of them", x.quality(0, 0, 0), 0);
         Check.due("30: the other lot's stay", x.quality(0, 1, 0), 20);
         Check.due("30: outs stay at stage 1", x.count(3), 0);
         x.out(1, 0, false);
