@@ -101,9 +101,7 @@ public final class LanguageTest {
                 Check.due("11: short methods, at line " + from, number - from <= 60 || from == 0);
                 from = 0;
             }
-            for (int i = 0; i < line.length(); i++) {
-                Check.due("4: signs 1 to 127, at line " + number, line.charAt(i) < 128);
-            }
+            Check.due("4: signs 1 to 127, at line " + number, line.chars().allMatch(sign -> sign > 0 && sign < 128));
         }
     }
 }
