@@ -20,16 +20,6 @@ public final class BidsTest {
         Check.end("BidsTest");
     }
 
-    static BidsJudged closed(int... prices) {
-        BidsJudged x = new BidsJudged();
-        for (int i = 0; i < prices.length; i++) {
-            x.bid(i, 0, 0, prices[i], 0, 0, 0, prices[i], 0);
-        }
-        x.closing(0);
-        x.time(1);
-        return x;
-    }
-
     private static void newObject() {
         BidsJudged x = new BidsJudged();
         for (int what = 0; what <= 17; what++) {
@@ -275,7 +265,7 @@ public final class BidsTest {
     }
 
     private static void quality() {
-        BidsJudged x = closed(5, 6);
+        BidsJudged x = Make.closed(5, 6);
         Check.due("12: bidder 8", x.quality(8, 0, 2), -1);
         Check.due("12: lot 1", x.quality(0, 1, 0), -1);
         Check.due("12: part 2", x.quality(3, 0, 2), -2);

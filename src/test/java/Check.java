@@ -1,7 +1,13 @@
+import java.io.IOException;
+import java.nio.file.Files;
+import java.nio.file.Path;
+
 /** Counts answers that are as due and those that are not. */
 final class Check {
     private static int right = 0;
     private static int wrong = 0;
+    private static String sentence = "";
+    private static String document = "";
 
     private Check() {
     }
@@ -13,12 +19,30 @@ final class Check {
         }
         wrong++;
         if (wrong <= 40) {
-            System.out.println(call + " answered " + got + ", due is " + want);
+            System.out.println(sentence + call + " answered " + got + ", due is " + want);
         }
     }
 
     static void due(String what, boolean holds) {
         due(what, holds ? 1 : 0, 1);
+    }
+
+    /** What follows tests these words; they must stand so in the document, line breaks apart. */
+    static void says(String words) {
+        if (document.isEmpty()) {
+            document = readDocument();
+        }
+        sentence = "";
+        due("the document says: " + words, document.contains(words));
+        sentence = "\"" + words + "\": ";
+    }
+
+    private static String readDocument() {
+        try {
+            return Files.readString(Path.of("../shared/DOC.md")).replaceAll("\\s+", " ");
+        } catch (IOException e) {
+            return "no document: " + e;
+        }
     }
 
     /** Puts a text on the tape, eight bytes at a time. */

@@ -99,7 +99,7 @@ public final class FormulaTest {
     }
 
     private static void formulaStays() {
-        BidsJudged x = BidsTest.closed(30);
+        BidsJudged x = Make.closed(30);
         Check.due("14: p", Check.formula(x, "p"), 1);
         Check.due("14: a fault", Check.formula(x, "l+"), -22);
         Check.due("14: stays", x.points(0, 0, 0), 30);
@@ -110,7 +110,7 @@ public final class FormulaTest {
     }
 
     private static void points() {
-        BidsJudged x = BidsTest.closed(100, 120);
+        BidsJudged x = Make.closed(100, 120);
         Check.due("15: bidder 8", x.points(8, 0, 2), REFUSED + 1);
         Check.due("15: lot 1", x.points(0, 1, 0), REFUSED + 1);
         Check.due("15: part 2", x.points(3, 0, 2), REFUSED + 2);
@@ -140,7 +140,7 @@ public final class FormulaTest {
     }
 
     private static void names() {
-        BidsJudged x = BidsTest.closed(100, 120, 51, 1);
+        BidsJudged x = Make.closed(100, 120, 51, 1);
         x.out(3, 0, true);
         x.note(0, 0, 0, 7);
         x.note(0, 1, 0, 8);
@@ -176,7 +176,7 @@ public final class FormulaTest {
     }
 
     private static void bounds() {
-        BidsJudged x = BidsTest.closed(100);
+        BidsJudged x = Make.closed(100);
         value(x, "b", 0, 1);
         value(x, "100000*10000", 1000000000L, 1);
         value(x, "1/(100000*10000)", 1, 1000000000L);
@@ -192,7 +192,7 @@ public final class FormulaTest {
     }
 
     private static void order() {
-        BidsJudged x = BidsTest.closed(100, 120, 50, 120, 100);
+        BidsJudged x = Make.closed(100, 120, 50, 120, 100);
         Check.due("16: lot 1", x.order(1, 0), -1);
         Check.due("16: lot -1", x.order(-1, 0), -1);
         Check.due("16: i -1", x.order(0, -1), -9);
@@ -216,7 +216,7 @@ public final class FormulaTest {
     }
 
     private static void gain() {
-        BidsJudged x = BidsTest.closed(100, 120, 50);
+        BidsJudged x = Make.closed(100, 120, 50);
         Check.formula(x, "l/p");
         Check.due("17: bidder 8", x.gain(8, 0, 0, 2), REFUSED + 1);
         Check.due("17: lot 1", x.gain(0, 1, 1, 0), REFUSED + 1);
@@ -247,7 +247,7 @@ public final class FormulaTest {
     }
 
     private static void turned() {
-        BidsJudged x = BidsTest.closed(100, 120, 50, 40);
+        BidsJudged x = Make.closed(100, 120, 50, 40);
         x.note(0, 0, 0, 60);
         x.note(0, 1, 0, 80);
         x.note(0, 2, 0, 10);
@@ -280,7 +280,7 @@ public final class FormulaTest {
 
     /** A scorer barred for the third counts again without the third's bid. */
     private static void turnedByBars() {
-        BidsJudged x = BidsTest.closed(10, 10, 10);
+        BidsJudged x = Make.closed(10, 10, 10);
         x.note(0, 0, 0, 50);
         x.note(0, 1, 0, 40);
         x.note(1, 1, 0, 100);

@@ -21,25 +21,8 @@ public final class WholeTest {
         Check.end("WholeTest");
     }
 
-    private static BidsJudged open(int... prices) {
-        BidsJudged x = new BidsJudged();
-        for (int i = 0; i < prices.length; i++) {
-            x.bid(i, 0, 0, prices[i], 0, 0, 0, prices[i], 0);
-        }
-        return x;
-    }
-
-    private static void bid(BidsJudged x, int bidder, int lot, int price) {
-        x.bid(bidder, lot, 0, price, 0, 0, 0, price, 0);
-    }
-
-    private static void close(BidsJudged x) {
-        x.closing(x.count(0));
-        x.time(1);
-    }
-
     private static void low() {
-        BidsJudged x = open(50, 100, 120);
+        BidsJudged x = Make.open(50, 100, 120);
         Check.due("19: limit 0", x.low(0, 0), 0);
         Check.due("19: bidder 8", x.low(8, 0), -1);
         Check.due("19: lot 1", x.low(0, 1), -1);
@@ -56,7 +39,7 @@ public final class WholeTest {
         x.set(2, 100);
         x.out(2, 0, true);
         Check.due("19: no others", x.low(0, 0), 0);
-        BidsJudged y = open(50, 100);
+        BidsJudged y = Make.open(50, 100);
         y.set(2, 50);
         Check.due("19: just the limit", y.low(0, 0), 0);
         y.set(2, 51);
@@ -64,7 +47,7 @@ public final class WholeTest {
     }
 
     private static void ask() {
-        BidsJudged x = open(50, 100);
+        BidsJudged x = Make.open(50, 100);
         x.time(5);
         x.set(2, 51);
         Check.due("20: bidder 8", x.ask(8, 0, 9), -1);
@@ -80,11 +63,11 @@ public final class WholeTest {
         x.time(1);
         Check.due("20: behind it it is out", x.count(3), 1);
         Check.due("20: doesn't stand", x.ask(0, 0, 9), -5);
-        BidsJudged y = open(50, 100);
+        BidsJudged y = Make.open(50, 100);
         y.set(2, 51);
         Check.due("20: last minute", y.ask(0, 0, 999999), 1);
         y.withdraw(0, 0);
-        bid(y, 0, 0, 50);
+        Make.bid(y, 0, 0, 50);
         Check.due("20: a new bid is not asked", y.ask(0, 0, 7), 1);
         y.answer(0, 0);
         Check.due("20: the first minute of all", y.ask(0, 0, 1), 1);
@@ -92,7 +75,7 @@ public final class WholeTest {
     }
 
     private static void answer() {
-        BidsJudged x = open(50, 100);
+        BidsJudged x = Make.open(50, 100);
         x.set(2, 51);
         x.ask(0, 0, 3);
         Check.due("21: bidder 8", x.answer(8, 0), -1);
@@ -113,7 +96,7 @@ public final class WholeTest {
     }
 
     private static void out() {
-        BidsJudged x = open(50, 100);
+        BidsJudged x = Make.open(50, 100);
         Check.due("22: bidder 8", x.out(8, 0, true), -1);
         Check.due("22: lot 1", x.out(0, 1, false), -1);
         Check.due("22: not out", x.out(0, 0, false), 0);
@@ -123,7 +106,7 @@ public final class WholeTest {
         Check.due("22: both are there", x.count(2), 2);
         Check.due("22: no more", x.out(0, 0, false), 1);
         Check.due("22: without a bid", x.out(5, 0, true), 1);
-        bid(x, 5, 0, 60);
+        Make.bid(x, 5, 0, 60);
         Check.due("22: it doesn't stand", x.count(3), 2);
         x.set(2, 51);
         x.ask(0, 0, 5);
@@ -161,13 +144,13 @@ public final class WholeTest {
     private static void whole() {
         BidsJudged x = new BidsJudged();
         x.lots(2);
-        bid(x, 0, 0, 101);
-        bid(x, 0, 1, 200);
-        bid(x, 1, 0, 110);
+        Make.bid(x, 0, 0, 101);
+        Make.bid(x, 0, 1, 200);
+        Make.bid(x, 1, 0, 110);
         Check.due("25: what before state", x.whole(2), -2);
         Check.due("25: what -1", x.whole(-1), -2);
         Check.due("25: open", x.whole(0), -3);
-        close(x);
+        Make.close(x);
         Check.due("25: lots given", x.whole(0), 2);
         Check.due("25: value", x.whole(1), 301);
         x.rebate(0, 1, 1);
@@ -199,7 +182,7 @@ public final class WholeTest {
         for (int lot = 0; lot < 6; lot++) {
             y.bid(7, lot, 1, 0, 0, 0, 0, 999999, 99999);
         }
-        close(y);
+        Make.close(y);
         Check.due("25: the greatest value", y.whole(1), 659998800);
     }
 
@@ -207,10 +190,10 @@ public final class WholeTest {
         BidsJudged x = new BidsJudged();
         x.lots(2);
         for (int lot = 0; lot < 2; lot++) {
-            bid(x, 4, lot, 100);
-            bid(x, 5, lot, 100);
+            Make.bid(x, 4, lot, 100);
+            Make.bid(x, 5, lot, 100);
         }
-        close(x);
+        Make.close(x);
         Check.due("25: like ones, lot 0", x.winner(0), 4);
         x.most(4, 1);
         Check.due("25: the first lot to the least", x.winner(0), 4);
@@ -223,20 +206,20 @@ public final class WholeTest {
         Check.due("25: none behind", x.winner(0), -9);
         BidsJudged y = new BidsJudged();
         y.lots(2);
-        bid(y, 3, 0, 100);
-        bid(y, 3, 1, 100);
-        close(y);
+        Make.bid(y, 3, 0, 100);
+        Make.bid(y, 3, 1, 100);
+        Make.close(y);
         y.most(3, 1);
         Check.due("25: none behind all", y.winner(0), 3);
         Check.due("25: and none", y.winner(1), -9);
     }
 
     private static void winner() {
-        BidsJudged x = open(50, 40);
+        BidsJudged x = Make.open(50, 40);
         Check.due("26: lot before state", x.winner(1), -1);
         Check.due("26: lot -1", x.winner(-1), -1);
         Check.due("26: open", x.winner(0), -3);
-        close(x);
+        Make.close(x);
         x.note(0, 0, 0, 99);
         Check.due("26: the least value, not the first", x.winner(0), 1);
         x.out(1, 0, true);
@@ -246,23 +229,23 @@ public final class WholeTest {
     }
 
     private static void award() {
-        BidsJudged x = open(50, 40);
+        BidsJudged x = Make.open(50, 40);
         Check.due("27: way 2", x.award(2), -2);
         Check.due("27: way -1", x.award(-1), -2);
         Check.due("27: open", x.award(0), -3);
-        close(x);
+        Make.close(x);
         Check.due("27: lots given", x.award(1), 1);
         Check.due("27: it is awarded", x.award(1), -3);
         Check.due("27: count(6)", x.count(6), 1);
         BidsJudged y = new BidsJudged();
-        close(y);
+        Make.close(y);
         Check.due("27: none given", y.award(0), 0);
         Check.due("27: awarded all the same", y.count(6), 1);
     }
 
     private static void awarded() {
-        BidsJudged x = open(50, 40);
-        close(x);
+        BidsJudged x = Make.open(50, 40);
+        Make.close(x);
         Check.due("28: lot 1", x.awarded(1), -1);
         Check.due("28: not awarded", x.awarded(0), -3);
         x.award(0);
@@ -271,14 +254,14 @@ public final class WholeTest {
         Check.due("28: as it was told", x.awarded(0), 1);
         Check.due("28: not as it is now", x.winner(0), 0);
         BidsJudged y = new BidsJudged();
-        close(y);
+        Make.close(y);
         y.award(0);
         Check.due("28: nobody", y.awarded(0), -9);
     }
 
     private static void challenge() {
-        BidsJudged x = open(50, 40);
-        close(x);
+        BidsJudged x = Make.open(50, 40);
+        Make.close(x);
         Check.due("29: lot 1", x.challenge(1, 3), -1);
         Check.due("29: stage 3", x.challenge(0, 3), -2);
         Check.due("29: stage -1", x.challenge(0, -1), -2);
@@ -294,8 +277,8 @@ public final class WholeTest {
         x.judge(1, false);
         x.sign();
         Check.due("29: signed", x.challenge(0, 1), -3);
-        BidsJudged y = open(50, 40);
-        close(y);
+        BidsJudged y = Make.open(50, 40);
+        Make.close(y);
         y.award(0);
         y.time(10 * 1440);
         Check.due("29: at once, the last minute", y.challenge(0, 2), 0);
@@ -304,8 +287,8 @@ public final class WholeTest {
     }
 
     private static void challengesHave20() {
-        BidsJudged x = open(50, 40);
-        close(x);
+        BidsJudged x = Make.open(50, 40);
+        Make.close(x);
         x.award(0);
         for (int i = 0; i < 20; i++) {
             Check.due("29: number " + i, x.challenge(0, 0), i);
@@ -319,8 +302,8 @@ public final class WholeTest {
     }
 
     private static void judge() {
-        BidsJudged x = open(50, 40);
-        close(x);
+        BidsJudged x = Make.open(50, 40);
+        Make.close(x);
         Check.due("30: none", x.judge(0, true), -1);
         x.award(0);
         x.challenge(0, 0);
@@ -349,19 +332,19 @@ public final class WholeTest {
         BidsJudged x = new BidsJudged();
         x.lots(2);
         x.set(2, 100);
-        bid(x, 0, 0, 30);
-        bid(x, 1, 0, 50);
-        bid(x, 0, 1, 50);
-        bid(x, 1, 1, 30);
+        Make.bid(x, 0, 0, 30);
+        Make.bid(x, 1, 0, 50);
+        Make.bid(x, 0, 1, 50);
+        Make.bid(x, 1, 1, 30);
         x.ask(0, 0, 3);
         x.ask(1, 1, 3);
-        close(x);
+        Make.close(x);
         x.note(0, 1, 0, 10);
         x.note(0, 0, 0, 30);
         x.note(5, 1, 0, 10);
         x.note(0, 0, 1, 20);
         x.time(8);
-        bid(x, 2, 0, 50);
+        Make.bid(x, 2, 0, 50);
         x.out(1, 0, true);
         x.out(0, 1, true);
         x.out(3, 0, true);
@@ -397,8 +380,8 @@ public final class WholeTest {
     }
 
     private static void sign() {
-        BidsJudged x = open(50, 40);
-        close(x);
+        BidsJudged x = Make.open(50, 40);
+        Make.close(x);
         Check.due("31: not awarded", x.sign(), -3);
         x.award(0);
         Check.due("31: standstill", x.sign(), -3);
@@ -412,8 +395,8 @@ public final class WholeTest {
         Check.due("31: it is", x.sign(), -3);
         Check.due("31: count(7)", x.count(7), 1);
         Check.due("31: awarded still", x.award(0), -3);
-        BidsJudged y = open(50, 40);
-        close(y);
+        BidsJudged y = Make.open(50, 40);
+        Make.close(y);
         y.award(1);
         y.time(13 * 1440);
         Check.due("31: by letter, its last minute", y.sign(), -3);
@@ -424,10 +407,10 @@ public final class WholeTest {
     private static void change() {
         BidsJudged x = new BidsJudged();
         x.lots(3);
-        bid(x, 0, 0, 101);
-        bid(x, 0, 1, 30);
+        Make.bid(x, 0, 0, 101);
+        Make.bid(x, 0, 1, 30);
         x.rebate(0, 2, 50);
-        close(x);
+        Make.close(x);
         Check.due("32: lot 3", x.change(3, 1), -1);
         Check.due("32: not awarded", x.change(0, 0), -3);
         x.award(0);
