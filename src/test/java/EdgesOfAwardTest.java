@@ -9,6 +9,7 @@ public final class EdgesOfAwardTest {
         awardIsRefused();
         awardedIsRefused();
         standstill();
+        whileItGoesOn();
         standstillBeyondTheLastMinute();
         challengeIsRefused();
         twentyChallenges();
@@ -102,7 +103,19 @@ public final class EdgesOfAwardTest {
             Check.due("over, way " + way, x.challenge(0, 0), -3);
             Check.due("signed behind it, way " + way, x.sign(), 1);
         }
-        Check.due("in the first minute", Make.awarded(10).challenge(0, 0), 0);
+    }
+
+    private static void whileItGoesOn() {
+        Check.says("a CHALLENGE (a LOT, a STAGE at fault: 0 the FORMULA, 1 NOTES, 2 a BID taken wrongly for OUT) while it"
+            + " goes on;");
+        BidsJudged x = Make.closed(10);
+        Check.due("ahead of it", x.challenge(0, 0), -3);
+        x.award(0);
+        Check.due("in its first minute", x.challenge(0, 0), 0);
+        x.time(14400);
+        Check.due("in its last minute", x.challenge(0, 2), 1);
+        x.time(1);
+        Check.due("behind it", x.challenge(0, 1), -3);
     }
 
     private static void standstillBeyondTheLastMinute() {
@@ -218,7 +231,7 @@ public final class EdgesOfAwardTest {
         }
         x.out(1, 0, true);
         x.out(1, 1, true);
-        Check.formula(x, "p");
+        Check.formula(x, "p+1-1");
         x.feed(1, 'k');
         x.award(0);
         x.challenge(lot, stage);

@@ -4,9 +4,11 @@ public final class EdgesOfBidsTest {
     private static final int GREATEST = Integer.MAX_VALUE;
 
     public static void main(String[] args) {
+        calls512();
         timeGoesOn();
         timeIsRefused();
         newObject();
+        bidders();
         moneys();
         rateIsRefused();
         moneyDay();
@@ -14,6 +16,7 @@ public final class EdgesOfBidsTest {
         lotsAreRefused();
         lotsThatThereAreNoMore();
         bidsAreToldAnew();
+        oneAndThenZero();
         bidNumbers();
         withdrawn();
         withdrawIsRefused();
@@ -29,6 +32,24 @@ public final class EdgesOfBidsTest {
         settings();
         priceIsRefused();
         Check.end("EdgesOfBidsTest");
+    }
+
+    private static void calls512() {
+        Check.says("An object is used for at most 512 calls after it has been made; what later calls answer is free.");
+        BidsJudged x = new BidsJudged();
+        for (int i = 1; i <= 510; i++) {
+            Check.due("call " + i, x.time(1), i);
+        }
+        Check.due("call 511", x.time(0), -4);
+        Check.due("call 512", x.count(14), 1);
+        for (int i = 0; i < 1000; i++) {
+            x.time(1);
+            x.bid(i, 0, 0, i, 0, 0, 0, i, 0);
+            x.feed(8, i);
+            x.challenge(0, 0);
+            x.join(i, 1);
+        }
+        Check.due("later calls end as well", true);
     }
 
     private static void timeGoesOn() {
@@ -74,6 +95,21 @@ public final class EdgesOfBidsTest {
         }
         Check.due("no challenge", x.judge(0, true), -1);
         Check.due("no call", x.decline(), -3);
+    }
+
+    private static void bidders() {
+        Check.says("BIDDERS 0 .. 7.");
+        BidsJudged x = new BidsJudged();
+        x.lots(6);
+        Check.due("no bidder -1", Make.bid(x, -1, 0, 5), -1);
+        Check.due("no bidder 8", Make.bid(x, 8, 0, 5), -1);
+        for (int at = 0; at < 48; at++) {
+            Check.due("a first bid", Make.bid(x, at / 6, at % 6, 100 + at), 1);
+        }
+        for (int at = 0; at < 48; at++) {
+            Check.due("each has its own", x.price(at / 6, at % 6), 100 + at);
+        }
+        Check.due("all of them", x.count(2), 48);
     }
 
     private static void moneys() {
@@ -194,7 +230,8 @@ public final class EdgesOfBidsTest {
     }
 
     private static void bidsAreToldAnew() {
-        Check.says("an OPTION price (0 .. 99999); told again: anew.");
+        Check.says("A BID of a BIDDER for a LOT: a MONEY, PRICES of ITEMS 0 .. 3 (0 .. 99999 each), a told SUM, an"
+            + " OPTION price (0 .. 99999); told again: anew.");
         BidsJudged x = new BidsJudged();
         x.rate(3, 2000);
         x.set(0, 1);
@@ -207,6 +244,22 @@ public final class EdgesOfBidsTest {
         Check.due("items are anew", x.price(4, 0), 35);
         Check.due("one bid", x.count(2), 1);
         Check.due("not another bidder's", x.price(3, 0), -5);
+    }
+
+    private static void oneAndThenZero() {
+        Check.says("A BID: 1; 0 if there was one (it is anew); -9 LATE.");
+        BidsJudged x = new BidsJudged();
+        Check.due("a first one", Make.bid(x, 0, 0, 5), 1);
+        Check.due("another bidder's first one", Make.bid(x, 1, 0, 5), 1);
+        Check.due("there was one", Make.bid(x, 0, 0, 5), 0);
+        x.out(0, 0, true);
+        Check.due("there was one that is out", Make.bid(x, 0, 0, 6), 0);
+        x.withdraw(0, 0);
+        Check.due("there was none any more", Make.bid(x, 0, 0, 7), 1);
+        Make.close(x);
+        Check.due("late, if there is one", Make.bid(x, 0, 0, 8), -9);
+        Check.due("late, if there is none", Make.bid(x, 2, 0, 8), -9);
+        Check.due("as it was", x.price(0, 0), 7);
     }
 
     private static void bidNumbers() {

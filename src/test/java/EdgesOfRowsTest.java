@@ -243,7 +243,7 @@ public final class EdgesOfRowsTest {
     }
 
     private static void callGoesRound() {
-        Check.says("go to the first one, from the one behind the latest to whom one went, round,");
+        Check.says("CALLS (1 .. 999) go to the first one, from the one behind the latest to whom one went, round,");
         BidsJudged x = row(3, 100, 1, 100, 5, 100);
         int[] want = {3, 1, 5, 3, 1, 5, 3};
         for (int i = 0; i < want.length; i++) {

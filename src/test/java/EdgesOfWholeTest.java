@@ -355,6 +355,9 @@ public final class EdgesOfWholeTest {
         Check.due("50, nothing to round", z.whole(1), 50);
         z.rebate(0, 1, 49);
         Check.due("51, nothing to round", z.whole(1), 51);
+        BidsJudged w = Make.closed(99);
+        w.rebate(0, 1, 1);
+        Check.due("98 and one hundredth", w.whole(1), 99);
     }
 
     private static void rebateOfM() {

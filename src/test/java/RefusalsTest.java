@@ -436,6 +436,7 @@ public final class RefusalsTest {
         refused("join: -3 and -4", RefusalsTest::open, x -> x.join(2, 0), -3);
         refused("join: -3 and -6", RefusalsTest::open, x -> x.join(2, 1000), -3);
         refused("join: -4", RefusalsTest::open, x -> x.join(7, 0), -4);
+        Check.says("-6 ROOM: a number above the greatest, no room.");
         refused("join: -6", RefusalsTest::open, x -> x.join(7, 1000), -6);
         refused("call: -4", RefusalsTest::open, x -> x.call(0), -4);
         refused("call: -6", RefusalsTest::open, x -> x.call(1000), -6);
