@@ -231,7 +231,7 @@ public final class EdgesOfAwardTest {
         }
         x.out(1, 0, true);
         x.out(1, 1, true);
-        Check.formula(x, "p+1-1");
+        Check.formula(x, "p*2-20");
         x.feed(1, 'k');
         x.award(0);
         x.challenge(lot, stage);
