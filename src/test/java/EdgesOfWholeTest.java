@@ -25,6 +25,7 @@ public final class EdgesOfWholeTest {
         mostLotsGiven();
         leastValue();
         leastPlaces();
+        greatestPlaces();
         leastBidders();
         noneBehindAll();
         wholeIsRefused();
@@ -465,6 +466,20 @@ public final class EdgesOfWholeTest {
         x.most(1, 6);
         x.most(2, 6);
         whole(x, "the first of both", 200, 2, 2);
+    }
+
+    private static void greatestPlaces() {
+        Check.says("of these the least VALUE together, of these the least sum of places in ORDER (0 the first),");
+        BidsJudged x = lots(6);
+        for (int at = 0; at < 48; at++) {
+            Make.bid(x, at / 6, at % 6, 100 - at / 6);
+        }
+        Make.close(x);
+        Check.formula(x, "p");
+        Check.due("the dearest is the first", x.order(5, 0), 0);
+        whole(x, "the last of each", 6 * 93, 7, 7, 7, 7, 7, 7);
+        x.most(7, 5);
+        whole(x, "the last but for one", 5 * 93 + 94, 6, 7, 7, 7, 7, 7);
     }
 
     private static void leastBidders() {
