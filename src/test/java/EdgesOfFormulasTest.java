@@ -13,6 +13,7 @@ public final class EdgesOfFormulasTest {
         grammar();
         numbers();
         nameSigns();
+        lessAndGreater();
         brackets();
         seventhBracket();
         firstByte();
@@ -162,6 +163,34 @@ public final class EdgesOfFormulasTest {
         text("pq", -21);
         text("2p", -21);
         text("p2", -21);
+    }
+
+    private static void lessAndGreater() {
+        Check.says("a NAME, \"(\" SUM \")\", \"<(\" SUM \",\" SUM \")\" (the less), "
+            + "\">(\" SUM \",\" SUM \")\" (the greater).");
+        BidsJudged x = Make.closed(3);
+        points(x, "<(2,p)", 2, 1);
+        points(x, "<(p,2)", 2, 1);
+        points(x, ">(2,p)", 3, 1);
+        points(x, ">(p,2)", 3, 1);
+        points(x, "<(p,3)", 3, 1);
+        points(x, ">(3,p)", 3, 1);
+        points(x, "<(1/3,33/100)", 33, 100);
+        points(x, ">(1/3,33/100)", 1, 3);
+        points(x, "<(0-p,0-2)", -3, 1);
+        points(x, ">(0-p,0-2)", -2, 1);
+        points(x, "10-<(p+4,p*4)*2", -4, 1);
+        points(x, ">(<(p,9),<(5,4))/2", 2, 1);
+        points(x, "10-(p-1)*2", 6, 1);
+        points(x, "(p)", 3, 1);
+        text("<(p)", -23);
+        text("<(p,p", -25);
+        text(">(p,p,p)", -25);
+        text(">(,p)", -22);
+        text("<(p,)", -24);
+        text("(p,p)", -22);
+        text("()", -21);
+        text(">>(p,p)", -21);
     }
 
     private static void brackets() {
